@@ -652,7 +652,7 @@ public final class GrowingCorners {
         }
 
         int lengthOf(int r) {
-            return isWithin(r, 0, MOST_ROWS - 1) ? lengths[r] : 0;
+            return r >= 0 && r < MOST_ROWS ? lengths[r] : 0;
         }
 
         boolean has(int r, int c) {
@@ -716,11 +716,13 @@ public final class GrowingCorners {
         }
 
         private int firstGreater(int r, int x) {
-            int c = 0;
-            while (has(r, c) && numbers[r][c] <= x) {
-                c++;
+            int length = lengthOf(r);
+            for (int c = 0; c < length; c++) {
+                if (numbers[r][c] > x) {
+                    return c;
+                }
             }
-            return c;
+            return length;
         }
 
         /** Undoes the insert that made row r grow: the letter that had been inserted. */
