@@ -194,7 +194,7 @@ public final class GrowingCorners {
         if (!isWhich(what)) {
             return BAD;
         }
-        // Schensted: P's first row is as long as the longest that does not fall, its first column as the longest that falls.
+        // Schensted: P's first row is as long as the longest that does not fall, its first column as the one that falls.
         Tableau p = word.tableau(0);
         return what == 0 ? p.lengthOf(0) : p.rowCount();
     }
@@ -701,7 +701,7 @@ public final class GrowingCorners {
             return was;
         }
 
-        /** The row that grew. There are rows enough, as columns rise and letters are 1 .. 9: the loop never runs out. */
+        /** The row that grew. Columns rise and letters are 1 .. 9, so there are rows enough for every letter. */
         int insert(int x) {
             int carried = x;
             for (int r = 0; r < MOST_ROWS; r++) {

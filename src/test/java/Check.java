@@ -2,12 +2,18 @@
 final class Check {
     private int wrong = 0;
     private int looked = 0;
+    private String sentence = "";
+
+    /** What the document says; it is printed ahead of each answer behind it that does not hold. */
+    void says(String words) {
+        sentence = "\"" + words + "\": ";
+    }
 
     void due(String call, long got, long want) {
         looked++;
         if (got != want) {
             wrong++;
-            System.out.println(call + " answered " + got + ", due is " + want);
+            System.out.println(sentence + call + " answered " + got + ", due is " + want);
         }
     }
 

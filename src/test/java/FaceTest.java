@@ -45,7 +45,8 @@ public final class FaceTest {
 
     private static void members() {
         Class<?> type = GrowingCorners.class;
-        check.holds("public and final", Modifier.isPublic(type.getModifiers()) && Modifier.isFinal(type.getModifiers()));
+        check.holds("public", Modifier.isPublic(type.getModifiers()));
+        check.holds("final", Modifier.isFinal(type.getModifiers()));
         Set<String> seen = new TreeSet<>();
         for (Method method : type.getDeclaredMethods()) {
             if (!Modifier.isPrivate(method.getModifiers())) {

@@ -37,7 +37,8 @@ final class Fill {
             for (int c = 0; c < length; c++) {
                 check.due("place(" + which + ", " + r + ", " + c + ")", x.place(which, r, c), rows[r][c]);
             }
-            check.due("place(" + which + ", " + r + ", " + length + ")", x.place(which, r, length), GrowingCorners.NONE);
+            check.due("place(" + which + ", " + r + ", " + length + ")", x.place(which, r, length),
+                    GrowingCorners.NONE);
         }
     }
 

@@ -39,6 +39,7 @@ final class Model {
             case "unlay": return unlay();
             case "back": return back();
             case "wordOf": return wordOf();
+            case "chance": return isIn(a, 1, 3) && isIn(b, 1, 3) && isIn(c, 0, 8) ? ChancesTest.counted(a, b, c) : -1;
             default: throw new IllegalArgumentException(name);
         }
     }

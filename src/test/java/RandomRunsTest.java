@@ -125,35 +125,7 @@ public final class RandomRunsTest {
         if (calls < CALLS) {
             calls++;
             check.due(name + " of " + a + ", " + b + ", " + c + ", " + d + " as call " + calls,
-                    call(name, a, b, c, d), model.call(name, a, b, c, d));
-        }
-    }
-
-    private long call(String name, int a, int b, int c, int d) {
-        switch (name) {
-            case "box": return x.box(a, b);
-            case "weight": return x.weight(a, b, c);
-            case "sheet": return x.sheet(a, b, c);
-            case "drop": return x.drop(a);
-            case "item": return x.item(a, b, c, d);
-            case "weights": return x.weights(a, b, c);
-            case "turn": return x.turn();
-            case "best": return x.best(a, b);
-            case "between": return x.between(a, b, c, d);
-            case "shape": return x.shape(a, b, c);
-            case "ways": return x.ways(a);
-            case "sums": return x.sums(a, b);
-            case "served": return x.served(a, b);
-            case "line": return x.line(a);
-            case "letter": return x.letter(a);
-            case "clear": return x.clear();
-            case "row": return x.row(a);
-            case "place": return x.place(a, b, c);
-            case "longest": return x.longest(a);
-            case "lay": return x.lay(a, b, c);
-            case "unlay": return x.unlay();
-            case "back": return x.back();
-            default: return x.wordOf();
+                    Calls.call(x, name, a, b, c, d), model.call(name, a, b, c, d));
         }
     }
 }
