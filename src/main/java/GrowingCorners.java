@@ -194,7 +194,7 @@ public final class GrowingCorners {
         if (!isWhich(what)) {
             return BAD;
         }
-        // Schensted: P's first row is as long as the longest that does not fall, its first column as the one that falls.
+        // Schensted: P's first row is as long as the longest that does not fall, its column as the one that falls.
         Tableau p = word.tableau(0);
         return what == 0 ? p.lengthOf(0) : p.rowCount();
     }

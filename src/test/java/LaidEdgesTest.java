@@ -250,7 +250,11 @@ public final class LaidEdgesTest {
         }
         isRead(p, q);
         GrowingCorners x = laid(p, q);
-        x.back();
+        check.due("lay in a full P", x.lay(0, 4, 9), FULL);
+        check.due("lay of a new row in a full Q", x.lay(1, 5, 9), FULL);
+        check.due("back: what is refused changed no number", x.back(), 40);
+        Fill.isTableau(check, x, 0, p);
+        Fill.isTableau(check, x, 1, q);
         check.due("letter behind 40", x.letter(1), FULL);
     }
 
